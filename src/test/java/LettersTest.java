@@ -1,0 +1,114 @@
+/** Promise 13: write, and the mail of an hour. */
+public final class LettersTest {
+    public static void main(String[] args) {
+        lettersTakeTheirDays();
+        lettersAreAnsweredInTheirHour();
+        weakLinesStayAsTheyAre();
+        aLineHasOneLetterOnItsWay();
+        confirmedLinesAreNotWrittenOf();
+        thirtyLettersAreOnTheirWay();
+        lettersRefuseWrongNumbers();
+        theFirstNamedExceptionIsThrown();
+        Checks.end("LettersTest");
+    }
+
+    private static void lettersTakeTheirDays() {
+        int[] far = {1, 9, 10, 19, 20, 49, 50};
+        int[] days = {2, 2, 3, 3, 4, 6, 7};
+        for (int i = 0; i < far.length; i++) {
+            CrystalClub club = Clubs.withLine(100, far[i]);
+            Checks.due("write(0, 0) to " + far[i], club.write(0, 0), 1 + 24L * days[i]);
+            Checks.due("count(7)", club.count(7), 1);
+        }
+    }
+
+    private static void lettersAreAnsweredInTheirHour() {
+        CrystalClub club = Clubs.withLine(100, 10);
+        Checks.due("write(0, 0)", club.write(0, 0), 73);
+        club.pass(72);
+        Checks.due("count(0)", club.count(0), 73);
+        Checks.due("log(0, 0, 3) before that hour has gone by", club.log(0, 0, 3), 0);
+        Checks.due("count(7) before that hour has gone by", club.count(7), 1);
+        club.pass(1);
+        Checks.due("log(0, 0, 3)", club.log(0, 0, 3), 1);
+        Checks.due("count(7)", club.count(7), 0);
+        Checks.due("count(6)", club.count(6), 1);
+    }
+
+    private static void weakLinesStayAsTheyAre() {
+        CrystalClub strong = Clubs.withLine(8, 10);
+        strong.write(0, 0);
+        strong.pass(73);
+        Checks.due("a line of 8", strong.log(0, 0, 3), 1);
+        CrystalClub weak = Clubs.withLine(7, 10);
+        weak.write(0, 0);
+        weak.pass(73);
+        Checks.due("log(0, 0, 2)", weak.log(0, 0, 2), 7);
+        Checks.due("a line of 7", weak.log(0, 0, 3), 0);
+        Checks.due("its letters", weak.count(7), 0);
+        Checks.due("another letter of it", weak.write(0, 0), 74 + 72);
+        Checks.due("its letters", weak.count(7), 1);
+    }
+
+    private static void aLineHasOneLetterOnItsWay() {
+        CrystalClub club = Clubs.withMember();
+        club.join(100, 10);
+        Clubs.addPlain(club, 1000, 50);
+        club.pass(25);
+        club.write(0, 0);
+        Checks.refusesState(club, "write(0, 0) again", () -> club.write(0, 0));
+        Checks.due("another line", club.write(0, 1), 25 + 72);
+        Checks.due("the same line of another member", club.write(1, 0), 25 + 72);
+        Checks.refusesState(club, "write(0, 1) again", () -> club.write(0, 1));
+        Checks.due("count(7)", club.count(7), 3);
+    }
+
+    private static void confirmedLinesAreNotWrittenOf() {
+        CrystalClub club = Clubs.withLine(50, 10);
+        club.write(0, 0);
+        club.pass(73);
+        Checks.refusesState(club, "write(0, 0) of a confirmed line", () -> club.write(0, 0));
+        Checks.due("count(7)", club.count(7), 0);
+    }
+
+    private static void thirtyLettersAreOnTheirWay() {
+        CrystalClub club = new CrystalClub();
+        club.addStation(1000, 100, 50, 0, 24, 0);
+        for (int i = 0; i < 8; i++) {
+            club.join(100, 60);
+        }
+        club.pass(96);
+        for (int i = 0; i < 30; i++) {
+            Checks.due("letter " + i, club.write(i / 4, i % 4), 96 + 168);
+        }
+        Checks.due("count(7)", club.count(7), 30);
+        Checks.refusesState(club, "the 31st letter", () -> club.write(7, 2));
+        club.pass(169);
+        Checks.due("count(7)", club.count(7), 0);
+        Checks.due("count(6)", club.count(6), 30);
+        Checks.due("a letter when there is room again", club.write(7, 2), 265 + 168);
+    }
+
+    private static void lettersRefuseWrongNumbers() {
+        CrystalClub club = Clubs.withLine(50, 10);
+        Checks.refusesIndex(club, "write(0, 1)", () -> club.write(0, 1));
+        Checks.refusesIndex(club, "write(0, -1)", () -> club.write(0, -1));
+        Checks.refusesIndex(club, "write(1, 0)", () -> club.write(1, 0));
+        Checks.refusesIndex(club, "write(-1, 0)", () -> club.write(-1, 0));
+        Checks.refusesIndex(club, "write(0, MAX)", () -> club.write(0, Integer.MAX_VALUE));
+    }
+
+    private static void theFirstNamedExceptionIsThrown() {
+        CrystalClub club = new CrystalClub();
+        club.addStation(1000, 100, 50, 0, 24, 0);
+        for (int i = 0; i < 8; i++) {
+            club.join(100, 60);
+        }
+        club.pass(96);
+        for (int i = 0; i < 30; i++) {
+            club.write(i / 4, i % 4);
+        }
+        Checks.refusesIndex(club, "no such line, and 30 letters", () -> club.write(0, 4));
+        Checks.refusesIndex(club, "no such member, and 30 letters", () -> club.write(8, 0));
+    }
+}
