@@ -3,6 +3,7 @@ public final class LettersTest {
     public static void main(String[] args) {
         lettersTakeTheirDays();
         lettersAreAnsweredInTheirHour();
+        lettersLeftKeepTheirOrder();
         weakLinesStayAsTheyAre();
         aLineHasOneLetterOnItsWay();
         confirmedLinesAreNotWrittenOf();
@@ -33,6 +34,34 @@ public final class LettersTest {
         Checks.due("log(0, 0, 3)", club.log(0, 0, 3), 1);
         Checks.due("count(7)", club.count(7), 0);
         Checks.due("count(6)", club.count(6), 1);
+    }
+
+    private static void lettersLeftKeepTheirOrder() {
+        CrystalClub club = new CrystalClub();
+        club.addStation(1000, 100, 1, 0, 24, 0);
+        club.addStation(500, 100, 30, 0, 24, 0);
+        club.join(100, 60);
+        club.join(200, 60);
+        club.pass(48);
+        club.listen(0, false);
+        club.listen(1, false);
+        club.write(0, 0);
+        Checks.due("write(1, 1)", club.write(1, 1), 48 + 120);
+        club.write(0, 1);
+        Checks.due("write(1, 0)", club.write(1, 0), 48 + 120);
+        Checks.due("foresee(49, 1)", club.foresee(49, 1), 2);
+        club.pass(49);
+        Checks.due("count(7)", club.count(7), 2);
+        Checks.due("log(0, 0, 3)", club.log(0, 0, 3), 1);
+        Checks.due("log(0, 1, 3)", club.log(0, 1, 3), 1);
+        Checks.due("log(1, 0, 3)", club.log(1, 0, 3), 0);
+        Checks.refusesState(club, "write(1, 0) again", () -> club.write(1, 0));
+        Checks.refusesState(club, "write(1, 1) again", () -> club.write(1, 1));
+        Checks.due("foresee(72, 1)", club.foresee(72, 1), 2);
+        club.pass(72);
+        Checks.due("log(1, 0, 3)", club.log(1, 0, 3), 1);
+        Checks.due("log(1, 1, 3)", club.log(1, 1, 3), 1);
+        Checks.due("count(7)", club.count(7), 0);
     }
 
     private static void weakLinesStayAsTheyAre() {

@@ -2,6 +2,7 @@
 public final class WouldBeTest {
     public static void main(String[] args) {
         dialFindsTheStrongestPlace();
+        dialGoesToTheEnds();
         dialTakesTheSmallestOfSeveral();
         dialNeedsThatTheSetHearsIt();
         dialFindsNoPlace();
@@ -9,6 +10,7 @@ public final class WouldBeTest {
         nextEndsAtNinetySix();
         nextKeepsTheCrystal();
         apartFindsTheFewestTurns();
+        apartGoesToTheEnds();
         apartTakesJustBothAsOnTheAir();
         apartFindsNone();
         apartRefusesWrongNumbers();
@@ -32,6 +34,14 @@ public final class WouldBeTest {
         Checks.due("dial(0, 0) with 25 turns", club.dial(0, 0), 100);
         club.wind(0, 125);
         Checks.due("dial(0, 0) with 125 turns", club.dial(0, 0), 0);
+    }
+
+    private static void dialGoesToTheEnds() {
+        CrystalClub club = Clubs.withMember();
+        club.addStation(1010, 100, 10, 0, 24, 0);
+        club.addStation(497, 100, 10, 0, 24, 0);
+        Checks.due("dial(0, 0), which is nearest to -1", club.dial(0, 0), 0);
+        Checks.due("dial(0, 1), which is nearest to 101", club.dial(0, 1), 100);
     }
 
     private static void dialTakesTheSmallestOfSeveral() {
@@ -123,6 +133,27 @@ public final class WouldBeTest {
         Checks.due("apart(1, 2, 0)", club.apart(1, 2, 0), 43);
         Checks.due("member(1, 0)", club.member(1, 0), 150);
         Checks.due("member(1, 1)", club.member(1, 1), 0);
+    }
+
+    /** Aerial; frequency, power and far of either station; the turns: each hangs on an end of dial or coil. */
+    private static void apartGoesToTheEnds() {
+        int[][] cases = {
+            {10, 330, 10, 1, 375, 10, 10, 188}, // with the dial at 100 alone
+            {60, 500, 5, 50, 514, 10, 10, 198}, // with the dial at 0 alone
+            {1, 694, 50, 10, 2342, 100, 1, -1}, // a dial at -1 would do
+            {10, 320, 100, 10, 362, 50, 10, 200},
+            {60, 2422, 5, 1, 2442, 50, 50, 20},
+            {1, 330, 5, 1, 373, 50, 10, -1}, // 203 turns would do
+        };
+        for (int[] c : cases) {
+            CrystalClub club = new CrystalClub();
+            club.join(77, c[0]);
+            club.turn(0, 44);
+            club.addStation(c[1], c[2], c[3], 0, 24, 0);
+            club.addStation(c[4], c[5], c[6], 0, 24, 0);
+            Checks.due("apart(0, 0, 1) of " + c[1] + " and " + c[4], club.apart(0, 0, 1), c[7]);
+            Checks.due("apart(0, 1, 0) of " + c[1] + " and " + c[4], club.apart(0, 1, 0), c[7]);
+        }
     }
 
     private static void apartTakesJustBothAsOnTheAir() {
