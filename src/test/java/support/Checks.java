@@ -10,6 +10,19 @@ final class Checks {
     private Checks() {
     }
 
+    static int made() {
+        return right + wrong;
+    }
+
+    static int wrong() {
+        return wrong;
+    }
+
+    /** Numbers below the least and above the most, near and far. */
+    static int[] beyond(int least, int most) {
+        return new int[] {least - 1, most + 1, -most - 1, most + 65536, Integer.MIN_VALUE, Integer.MAX_VALUE};
+    }
+
     static void due(String call, long got, long want) {
         note(got == want, call + " answered " + got + ", due is " + want);
     }
@@ -45,6 +58,16 @@ final class Checks {
 
     static void refusesState(CrystalClub club, String call, Call body) {
         refuses(club, call, IllegalStateException.class, body);
+    }
+
+    static void takes(String call, Call body) {
+        String got = "nothing";
+        try {
+            body.run();
+        } catch (RuntimeException e) {
+            got = e.getClass().getSimpleName();
+        }
+        note(got.equals("nothing"), call + " threw " + got);
     }
 
     static void note(boolean isRight, String whatWasWrong) {

@@ -33,4 +33,29 @@ final class Clubs {
         club.listen(0, false);
         return club;
     }
+
+    /** Each member hears station 0, which is as strong as its power, and no other one. */
+    static CrystalClub of(int members, int stations) {
+        CrystalClub club = new CrystalClub();
+        for (int i = 0; i < stations; i++) {
+            addPlain(club, TUNED + 150 * i, 50);
+        }
+        for (int i = 0; i < members; i++) {
+            club.join(100, 10);
+        }
+        return club;
+    }
+
+    /** Members with a line for each of the days, all of one station that is 50 far, and no letter. */
+    static CrystalClub withLines(int members, int days) {
+        CrystalClub club = new CrystalClub();
+        club.addStation(TUNED, 100, 50, 0, 24, 0);
+        for (int i = 0; i < members; i++) {
+            club.join(100, 60);
+        }
+        if (days > 0) {
+            club.pass(24 * days);
+        }
+        return club;
+    }
 }
