@@ -510,17 +510,8 @@ public final class EdgesOfTermsTest {
 
     /** One of two equal clubs refuses each kind of call; after that both answer alike for days. */
     private static void refusedCallsChangeNothing() {
-        CrystalClub asked = Clubs.withLines(8, 4);
-        CrystalClub twin = Clubs.withLines(8, 4);
-        for (CrystalClub club : new CrystalClub[] {asked, twin}) {
-            for (int i = 0; i < 11; i++) {
-                Clubs.addPlain(club, 640, 50);
-            }
-            for (int letter = 0; letter < 30; letter++) {
-                club.write(letter / 4, letter % 4);
-            }
-            club.turn(0, 56);
-        }
+        CrystalClub asked = Clubs.full();
+        CrystalClub twin = Clubs.full();
         refuseAll(asked);
         for (int i = 0; i < 9; i++) {
             Checks.due("pass(30)", asked.pass(30), twin.pass(30));
@@ -553,13 +544,7 @@ public final class EdgesOfTermsTest {
     }
 
     private static void theFirstNamedExceptionIsThrown() {
-        CrystalClub club = Clubs.withLines(8, 4);
-        for (int i = 0; i < 11; i++) {
-            Clubs.addPlain(club, 640, 50);
-        }
-        for (int letter = 0; letter < 30; letter++) {
-            club.write(letter / 4, letter % 4);
-        }
+        CrystalClub club = Clubs.full();
         Checks.refusesArgument(club, "addStation, full and wrong", () -> club.addStation(299, 50, 10, 0, 24, 0));
         Checks.refusesArgument(club, "addStation, full and wrong", () -> club.addStation(1000, 50, 10, 0, 24, 12));
         Checks.refusesArgument(club, "join, full and wrong", () -> club.join(201, 10));

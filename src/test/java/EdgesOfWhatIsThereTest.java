@@ -26,7 +26,8 @@ public final class EdgesOfWhatIsThereTest {
     private static void strengthAndHears() {
         Sentences.chapter("Promise 10");
         Sentences.hold("0 if it is not in reach", EdgesOfWhatIsThereTest::strengthIsNoneOutOfReach);
-        Sentences.hold("there is no such member", () -> Absent.members("strength", (club, number) -> club.strength(number, 0)));
+        Sentences.hold("there is no such member",
+            () -> Absent.members("strength", (club, number) -> club.strength(number, 0)));
         Sentences.hold("there is no such member or station",
             () -> Absent.stations("strength", (club, number) -> club.strength(0, number)));
         Sentences.chapter("Promise 11");
@@ -144,7 +145,8 @@ public final class EdgesOfWhatIsThereTest {
         club.addStation(1000, 4, 50, 0, 24, 0);
         club.addStation(3000, 100, 1, 0, 24, 0);
         club.addStation(300, 100, 1, 0, 24, 0);
-        String[] why = {"as far above as the width", "as far below", "off the air", "cut to nothing", "far above", "far below"};
+        String[] why = {"as far above as the width", "as far below", "off the air", "cut to nothing", "far above",
+            "far below"};
         for (int station = 0; station < why.length; station++) {
             Checks.due("strength(0, " + station + "), " + why[station], club.strength(0, station), 0);
         }

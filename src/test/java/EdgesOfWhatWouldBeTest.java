@@ -1,7 +1,3 @@
-import java.math.BigInteger;
-import java.util.ArrayList;
-import java.util.List;
-
 /** The boundaries that promises 17 to 22 name, each with a test of its own. */
 public final class EdgesOfWhatWouldBeTest {
     public static void main(String[] args) {
@@ -408,9 +404,9 @@ public final class EdgesOfWhatWouldBeTest {
 
     private static void digestWrapsAround() {
         for (CrystalClub club : new CrystalClub[] {new CrystalClub(), Clubs.of(0, 1), Clubs.of(1, 0), Clubs.of(8, 12)}) {
-            Checks.due("digest()", club.digest(), digestOf(allButLetters(club)));
+            Checks.due("digest()", club.digest(), Digests.due(club));
             club.pass(240);
-            Checks.due("digest() after pass(240)", club.digest(), digestOf(allButLetters(club)));
+            Checks.due("digest() after pass(240)", club.digest(), Digests.due(club));
         }
     }
 
@@ -429,52 +425,10 @@ public final class EdgesOfWhatWouldBeTest {
         for (int[] letter : letters) {
             Checks.due("write(" + letter[0] + ", " + letter[1] + ")", club.write(letter[0], letter[1]), letter[2]);
         }
-        Checks.due("digest() with three letters", club.digest(), digestWith(club, letters));
+        Checks.due("digest() with three letters", club.digest(), Digests.due(club, letters));
         club.pass(49);
-        Checks.due("digest() with two left", club.digest(), digestWith(club, letters[0], letters[2]));
+        Checks.due("digest() with two left", club.digest(), Digests.due(club, letters[0], letters[2]));
         club.pass(120);
-        Checks.due("digest() with none left", club.digest(), digestWith(club));
-    }
-
-    private static long digestWith(CrystalClub club, int[]... letters) {
-        List<Integer> all = allButLetters(club);
-        for (int[] letter : letters) {
-            for (int x : letter) {
-                all.add(x);
-            }
-        }
-        return digestOf(all);
-    }
-
-    private static List<Integer> allButLetters(CrystalClub club) {
-        List<Integer> all = new ArrayList<>();
-        for (int what = 0; what < 8; what++) {
-            all.add(club.count(what));
-        }
-        for (int station = 0; station < club.count(1); station++) {
-            for (int what = 0; what < 6; what++) {
-                all.add(club.station(station, what));
-            }
-        }
-        for (int member = 0; member < club.count(3); member++) {
-            for (int what = 0; what < 10; what++) {
-                all.add(club.member(member, what));
-            }
-            for (int line = 0; line < club.member(member, 7); line++) {
-                for (int what = 0; what < 4; what++) {
-                    all.add(club.log(member, line, what));
-                }
-            }
-        }
-        return all;
-    }
-
-    /** Without a wrap on the way: of the whole number the last 64 bits are told at the end. */
-    private static long digestOf(List<Integer> all) {
-        BigInteger d = BigInteger.valueOf(701);
-        for (int x : all) {
-            d = d.multiply(BigInteger.valueOf(31)).add(BigInteger.valueOf(x));
-        }
-        return d.longValue();
+        Checks.due("digest() with none left", club.digest(), Digests.due(club));
     }
 }

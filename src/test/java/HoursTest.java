@@ -5,10 +5,8 @@ public final class HoursTest {
         twoStationsOfADayAreLogged();
         onlyListenersWrite();
         severalAtOnceAreNotLogged();
-        aFullLogTakesNoLine();
         crystalsWearEverySixHours();
         linesAreWrittenBeforeTheCrystalWears();
-        passRefusesWrongHours();
         countTellsAll();
         ranksAreByScore();
         ranksAreByLinesAndNumbers();
@@ -60,22 +58,6 @@ public final class HoursTest {
         Checks.due("pass(24) of none", weak.pass(24), 0);
     }
 
-    private static void aFullLogTakesNoLine() {
-        CrystalClub club = Clubs.withMember();
-        club.addStation(1000, 100, 1, 0, 24, 0);
-        club.addStation(500, 100, 1, 0, 24, 0);
-        Checks.due("pass(240)", club.pass(240), 10);
-        Checks.due("pass(240)", club.pass(240), 10);
-        Checks.due("pass(240)", club.pass(240), 10);
-        Checks.due("pass(239)", club.pass(239), 10);
-        Checks.due("member(0, 7)", club.member(0, 7), 40);
-        Checks.due("log(0, 39, 0)", club.log(0, 39, 0), 39 * 24);
-        Checks.due("pass(240) with a full log", club.pass(240), 0);
-        Checks.due("member(0, 7)", club.member(0, 7), 40);
-        club.join(100, 60);
-        Checks.due("pass(24) of another member", club.pass(24), 2);
-    }
-
     private static void crystalsWearEverySixHours() {
         CrystalClub club = Clubs.withMember();
         club.join(100, 10);
@@ -103,16 +85,6 @@ public final class HoursTest {
         Checks.due("strength(0, 0)", club.strength(0, 0), 40);
     }
 
-    private static void passRefusesWrongHours() {
-        CrystalClub club = Clubs.hearing(50);
-        Checks.refusesArgument(club, "pass(0)", () -> club.pass(0));
-        Checks.refusesArgument(club, "pass(-1)", () -> club.pass(-1));
-        Checks.refusesArgument(club, "pass(241)", () -> club.pass(241));
-        Checks.refusesArgument(club, "pass(MIN)", () -> club.pass(Integer.MIN_VALUE));
-        Checks.due("pass(240)", club.pass(240), 10);
-        Checks.due("count(0)", club.count(0), 240);
-    }
-
     private static void countTellsAll() {
         CrystalClub club = new CrystalClub();
         club.addStation(1000, 100, 1, 0, 24, 0);
@@ -133,8 +105,6 @@ public final class HoursTest {
         for (int what = 0; what < due.length; what++) {
             Checks.due("count(" + what + ")", club.count(what), due[what]);
         }
-        Checks.refusesIndex(club, "count(8)", () -> club.count(8));
-        Checks.refusesIndex(club, "count(-1)", () -> club.count(-1));
     }
 
     private static void ranksAreByScore() {
@@ -159,9 +129,6 @@ public final class HoursTest {
             Checks.due("member(" + i + ", 9)", club.member(i, 9), scores[i]);
             Checks.due("rank(" + i + ")", club.rank(i), places[i]);
         }
-        Checks.refusesIndex(club, "rank(3)", () -> club.rank(3));
-        Checks.refusesIndex(club, "rank(-1)", () -> club.rank(-1));
-        Checks.refusesIndex(club, "rank(8)", () -> club.rank(8));
     }
 
     private static void ranksAreByLinesAndNumbers() {

@@ -5,11 +5,6 @@ public final class LettersTest {
         lettersAreAnsweredInTheirHour();
         lettersLeftKeepTheirOrder();
         weakLinesStayAsTheyAre();
-        aLineHasOneLetterOnItsWay();
-        confirmedLinesAreNotWrittenOf();
-        thirtyLettersAreOnTheirWay();
-        lettersRefuseWrongNumbers();
-        theFirstNamedExceptionIsThrown();
         Checks.end("LettersTest");
     }
 
@@ -77,67 +72,5 @@ public final class LettersTest {
         Checks.due("its letters", weak.count(7), 0);
         Checks.due("another letter of it", weak.write(0, 0), 74 + 72);
         Checks.due("its letters", weak.count(7), 1);
-    }
-
-    private static void aLineHasOneLetterOnItsWay() {
-        CrystalClub club = Clubs.withMember();
-        club.join(100, 10);
-        Clubs.addPlain(club, 1000, 50);
-        club.pass(25);
-        club.write(0, 0);
-        Checks.refusesState(club, "write(0, 0) again", () -> club.write(0, 0));
-        Checks.due("another line", club.write(0, 1), 25 + 72);
-        Checks.due("the same line of another member", club.write(1, 0), 25 + 72);
-        Checks.refusesState(club, "write(0, 1) again", () -> club.write(0, 1));
-        Checks.due("count(7)", club.count(7), 3);
-    }
-
-    private static void confirmedLinesAreNotWrittenOf() {
-        CrystalClub club = Clubs.withLine(50, 10);
-        club.write(0, 0);
-        club.pass(73);
-        Checks.refusesState(club, "write(0, 0) of a confirmed line", () -> club.write(0, 0));
-        Checks.due("count(7)", club.count(7), 0);
-    }
-
-    private static void thirtyLettersAreOnTheirWay() {
-        CrystalClub club = new CrystalClub();
-        club.addStation(1000, 100, 50, 0, 24, 0);
-        for (int i = 0; i < 8; i++) {
-            club.join(100, 60);
-        }
-        club.pass(96);
-        for (int i = 0; i < 30; i++) {
-            Checks.due("letter " + i, club.write(i / 4, i % 4), 96 + 168);
-        }
-        Checks.due("count(7)", club.count(7), 30);
-        Checks.refusesState(club, "the 31st letter", () -> club.write(7, 2));
-        club.pass(169);
-        Checks.due("count(7)", club.count(7), 0);
-        Checks.due("count(6)", club.count(6), 30);
-        Checks.due("a letter when there is room again", club.write(7, 2), 265 + 168);
-    }
-
-    private static void lettersRefuseWrongNumbers() {
-        CrystalClub club = Clubs.withLine(50, 10);
-        Checks.refusesIndex(club, "write(0, 1)", () -> club.write(0, 1));
-        Checks.refusesIndex(club, "write(0, -1)", () -> club.write(0, -1));
-        Checks.refusesIndex(club, "write(1, 0)", () -> club.write(1, 0));
-        Checks.refusesIndex(club, "write(-1, 0)", () -> club.write(-1, 0));
-        Checks.refusesIndex(club, "write(0, MAX)", () -> club.write(0, Integer.MAX_VALUE));
-    }
-
-    private static void theFirstNamedExceptionIsThrown() {
-        CrystalClub club = new CrystalClub();
-        club.addStation(1000, 100, 50, 0, 24, 0);
-        for (int i = 0; i < 8; i++) {
-            club.join(100, 60);
-        }
-        club.pass(96);
-        for (int i = 0; i < 30; i++) {
-            club.write(i / 4, i % 4);
-        }
-        Checks.refusesIndex(club, "no such line, and 30 letters", () -> club.write(0, 4));
-        Checks.refusesIndex(club, "no such member, and 30 letters", () -> club.write(8, 0));
     }
 }

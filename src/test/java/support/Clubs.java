@@ -58,4 +58,16 @@ final class Clubs {
         }
         return club;
     }
+
+    /** No room for a station, a member or a letter; there are lines without a letter, as the last two of member 7. */
+    static CrystalClub full() {
+        CrystalClub club = withLines(8, 4);
+        for (int i = 0; i < 11; i++) {
+            addPlain(club, 640, 50);
+        }
+        for (int letter = 0; letter < 30; letter++) {
+            club.write(letter / 4, letter % 4);
+        }
+        return club;
+    }
 }
