@@ -19,6 +19,8 @@ public final class EdgesOfWhatIsThereTest {
         Sentences.hold("what is not 0 to 5", EdgesOfWhatIsThereTest::stationNeedsAWhat);
         Sentences.chapter("Promise 9");
         Sentences.hold("1 if this one listens, else 0", EdgesOfWhatIsThereTest::membersTellWhetherTheyListen);
+        Sentences.hold("lines of the log", EdgesOfWhatIsThereTest::membersTellNoLinesAndForty);
+        Sentences.hold("stations of which this one has a card", EdgesOfWhatIsThereTest::membersTellNoCardsAndTwelve);
         Sentences.hold("there is no such member", () -> Absent.members("member", (club, number) -> club.member(number, 0)));
         Sentences.hold("what is not 0 to 9", EdgesOfWhatIsThereTest::memberNeedsAWhat);
     }
@@ -64,6 +66,7 @@ public final class EdgesOfWhatIsThereTest {
         Sentences.hold("how many lines were written into logs in them", EdgesOfWhatIsThereTest::passTellsTheLinesOfItsHours);
         Sentences.hold("hours is not 1 to 240", EdgesOfWhatIsThereTest::passNeedsHours);
         Sentences.chapter("Promise 15");
+        Sentences.hold("letters on their way", EdgesOfWhatIsThereTest::countTellsNoLettersAndThirty);
         Sentences.hold("what is not 0 to 7", EdgesOfWhatIsThereTest::countNeedsAWhat);
     }
 
@@ -124,6 +127,38 @@ public final class EdgesOfWhatIsThereTest {
         Checks.due("member(0, 4)", club.member(0, 4), 1);
         club.listen(1, true);
         Checks.due("member(1, 4) again", club.member(1, 4), 1);
+    }
+
+    private static void membersTellNoLinesAndForty() {
+        CrystalClub club = Clubs.withLines(2, 0);
+        club.listen(1, false);
+        for (int day = 0; day < 41; day++) {
+            Checks.due("member(0, 7) on day " + day, club.member(0, 7), day);
+            Checks.due("member(1, 7) on day " + day, club.member(1, 7), 0);
+            club.pass(24);
+        }
+        Checks.due("member(0, 7) of a full log", club.member(0, 7), 40);
+    }
+
+    /** Twelve stations follow one another round the day: 1, 2, .. 12 far, which is 78 in all. */
+    private static void membersTellNoCardsAndTwelve() {
+        CrystalClub club = Clubs.withMember();
+        for (int i = 0; i < 12; i++) {
+            club.addStation(Clubs.TUNED, 100, 1 + i, 2 * i, 2, 0);
+        }
+        Checks.due("pass(24)", club.pass(24), 12);
+        Checks.due("member(0, 8) of none", club.member(0, 8), 0);
+        Checks.due("member(0, 9) of none", club.member(0, 9), 0);
+        for (int line = 0; line < 12; line++) {
+            club.write(0, line);
+        }
+        club.listen(0, false);
+        club.pass(49);
+        Checks.due("member(0, 8) without those that are 10 far and more", club.member(0, 8), 9);
+        Checks.due("member(0, 9) without those that are 10 far and more", club.member(0, 9), 45);
+        club.pass(24);
+        Checks.due("member(0, 8) of all", club.member(0, 8), 12);
+        Checks.due("member(0, 9) of all", club.member(0, 9), 78);
     }
 
     private static void memberNeedsAWhat() {
@@ -314,6 +349,20 @@ public final class EdgesOfWhatIsThereTest {
         Checks.due("count(0) after pass(1)", club.count(0), 1);
         club.pass(240);
         Checks.due("count(0) after pass(240)", club.count(0), 241);
+    }
+
+    private static void countTellsNoLettersAndThirty() {
+        CrystalClub club = Clubs.withLines(8, 4);
+        for (int letter = 0; letter < 30; letter++) {
+            Checks.due("count(7)", club.count(7), letter);
+            club.write(letter / 4, letter % 4);
+        }
+        Checks.due("count(7) of all that can be", club.count(7), 30);
+        club.pass(168);
+        Checks.due("count(7) in the hour of the answers", club.count(7), 30);
+        club.pass(1);
+        Checks.due("count(7) after it", club.count(7), 0);
+        Checks.due("count(6) after it", club.count(6), 30);
     }
 
     private static void countNeedsAWhat() {
