@@ -224,6 +224,7 @@ public final class EdgesOfWhatWouldBeTest {
         Checks.due("apart(0, 0, 1) in hour 0", full, 82);
         club.pass(1);
         Checks.due("apart(0, 0, 1) in hour 1", club.apart(0, 0, 1), -1);
+        Checks.due("apart(0, 1, 0) in hour 1", club.apart(0, 1, 0), -1);
         club.pass(11);
         Checks.due("apart(0, 0, 1) in hour 12", club.apart(0, 0, 1), full);
     }

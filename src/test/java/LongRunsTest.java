@@ -8,9 +8,12 @@ public final class LongRunsTest {
     // How often each of these is called; the first two come often enough to fill the club.
     private static final int[] WEIGHTS = {5, 4, 8, 3, 3, 5, 4, 5, 4, 4, 5, 12, 9, 3, 4, 4, 4, 1, 3, 1, 1};
 
+    private static final int WRITE = 11;
+
     private static long seed;
     private static int[] told = new int[NAMES.length];
     private static int thrown = 0;
+    private static int callsWithFullMail = 0;
 
     public static void main(String[] args) {
         for (int run = 0; run < 300; run++) {
@@ -21,6 +24,7 @@ public final class LongRunsTest {
             Checks.note(told[i] > 50, NAMES[i] + " was compared only " + told[i] + " times");
         }
         Checks.note(thrown > 1000, "exceptions were compared only " + thrown + " times");
+        Checks.note(callsWithFullMail > 100, "all letters were on their way in only " + callsWithFullMail + " calls");
         Checks.end("LongRunsTest");
     }
 
@@ -28,12 +32,14 @@ public final class LongRunsTest {
         CrystalClub club = new CrystalClub();
         PlainClub plain = new PlainClub();
         boolean isKind = run % 3 != 0;
+        boolean writesMuch = run % 6 == 5;
         for (int call = 0; call < 512; call++) {
-            int which = call < 20 && isKind ? call % 2 : pick();
+            int which = call < 20 && isKind ? call % 2 : writesMuch && below(2) == 0 ? WRITE : pick();
             int[] a = arguments(which, plain, isKind);
             String got = answer(which, a, club, null);
             String want = answer(which, a, null, plain);
             told[which]++;
+            callsWithFullMail += plain.count(7) == 30 ? 1 : 0;
             thrown += want.startsWith("throws") ? 1 : 0;
             String told = "run " + run + ", call " + call + ": " + NAMES[which] + Arrays.toString(a);
             Checks.note(got.equals(want), told + " answered " + got + ", due is " + want);

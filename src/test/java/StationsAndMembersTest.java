@@ -8,6 +8,7 @@ public final class StationsAndMembersTest {
         windChangesTheCoil();
         listenTellsWhatWas();
         renewGivesANewCrystal();
+        eachChangesItsOwnValuesAlone();
         Checks.end("StationsAndMembersTest");
     }
 
@@ -95,5 +96,52 @@ public final class StationsAndMembersTest {
         Checks.due("renew(0)", club.renew(0), 6);
         Checks.due("member(0, 3)", club.member(0, 3), 9);
         Checks.due("member(1, 3)", club.member(1, 3), 6);
+    }
+
+    /** One who does not listen any more, with a worn crystal, a turned dial, a line and a card. */
+    private static CrystalClub withHistory() {
+        CrystalClub club = Clubs.withMember();
+        club.addStation(1000, 100, 5, 0, 24, 0);
+        club.join(100, 10);
+        club.pass(8);
+        club.write(0, 0);
+        club.pass(49);
+        club.turn(0, 30);
+        club.listen(0, false);
+        return club;
+    }
+
+    private static void eachChangesItsOwnValuesAlone() {
+        changesAlone("turn(0, 60)", club -> club.turn(0, 60), 1, 5);
+        changesAlone("wind(0, 60)", club -> club.wind(0, 60), 0, 5, 6);
+        changesAlone("listen(0, true)", club -> club.listen(0, true), 4);
+        changesAlone("renew(0)", club -> club.renew(0), 3);
+        changesAlone("join(50, 50)", club -> club.join(50, 50));
+        changesAlone("addStation(1000, ..)", club -> club.addStation(1000, 50, 10, 0, 24, 0));
+    }
+
+    private interface Change {
+        void on(CrystalClub club);
+    }
+
+    /** Of member 0 the call changes just the values with these numbers, and of member 1 none. */
+    private static void changesAlone(String call, Change change, int... values) {
+        CrystalClub club = withHistory();
+        CrystalClub before = withHistory();
+        change.on(club);
+        for (int what = 0; what < 10; what++) {
+            boolean isToChange = false;
+            for (int value : values) {
+                isToChange = isToChange || value == what;
+            }
+            boolean hasChanged = club.member(0, what) != before.member(0, what);
+            Checks.due("whether " + call + " changes member(0, " + what + ")", hasChanged, isToChange);
+            Checks.due("member(1, " + what + ") after " + call, club.member(1, what), before.member(1, what));
+        }
+        for (int what = 0; what < 4; what++) {
+            Checks.due("log(0, 0, " + what + ") after " + call, club.log(0, 0, what), before.log(0, 0, what));
+        }
+        Checks.due("count(0) after " + call, club.count(0), before.count(0));
+        Checks.due("station(0, 5) after " + call, club.station(0, 5), before.station(0, 5));
     }
 }

@@ -5,9 +5,11 @@ public final class WouldBeTest {
         dialTakesTheSmallestOfSeveral();
         dialNeedsThatTheSetHearsIt();
         dialFindsNoPlace();
+        dialTakesTheCrystalAsItIs();
         nextCountsHours();
         apartFindsTheFewestTurns();
         apartTakesJustBothAsOnTheAir();
+        apartTakesTheCrystalAsItIs();
         apartFindsNone();
         foreseeTellsWhatPassDoes();
         meanIsOfAllLines();
@@ -62,6 +64,16 @@ public final class WouldBeTest {
         Checks.due("dial(0, 1)", club.dial(0, 1), -1);
     }
 
+    /** In hour 12 the fading is that of hour 0, but the crystal is at 7, which cuts 5 to 4. */
+    private static void dialTakesTheCrystalAsItIs() {
+        CrystalClub club = Clubs.hearing(5);
+        Checks.due("dial(0, 0) with a new crystal", club.dial(0, 0), 0);
+        club.pass(12);
+        Checks.due("dial(0, 0) with a worn crystal", club.dial(0, 0), -1);
+        club.renew(0);
+        Checks.due("dial(0, 0) with a new crystal again", club.dial(0, 0), 0);
+    }
+
     private static void nextCountsHours() {
         CrystalClub club = Clubs.withMember();
         club.addStation(1000, 50, 10, 7, 3, 0);
@@ -103,6 +115,17 @@ public final class WouldBeTest {
         club.addStation(1000, 100, 1, 0, 24, 0);
         club.addStation(640, 100, 1, 0, 24, 0);
         Checks.due("apart(0, 0, 1) beside others", club.apart(0, 0, 1), alone);
+    }
+
+    private static void apartTakesTheCrystalAsItIs() {
+        CrystalClub club = Clubs.hearing(5);
+        Clubs.addPlain(club, 500, 100);
+        Checks.due("apart(0, 0, 1) with a new crystal", club.apart(0, 0, 1), 82);
+        club.pass(12);
+        Checks.due("apart(0, 0, 1) with a worn crystal", club.apart(0, 0, 1), -1);
+        Checks.due("apart(0, 1, 0) with a worn crystal", club.apart(0, 1, 0), -1);
+        club.renew(0);
+        Checks.due("apart(0, 0, 1) with a new crystal again", club.apart(0, 0, 1), 82);
     }
 
     private static void apartFindsNone() {
